@@ -86,23 +86,27 @@ public final class TapeHall {
     }
 
     public int tape(int home, int kind, int n) {
+        int number = tapeCount;
         if (!within(home, SLOTS) || kind < BYTES || kind > MISSING || n == 0 || n > MOST_PLACES
-                || isHome(home) || !within(tapeCount, tapes.length)) {
+                || isHome(home) || !within(number, tapes.length)) {
             return NONE;
         }
         if (n < 0) {
             return BELOW_ZERO;
         }
-        tapes[tapeCount] = new Tape(home, kind, n, kind == MISSING ? null : new long[n]);
-        return tapeCount++;
+        tapes[number] = new Tape(home, kind, n, kind == MISSING ? null : new long[n]);
+        tapeCount++;
+        return number;
     }
 
     public int reader(int slot) {
-        if (!within(slot, SLOTS) || isReaderSlot(slot) || !within(readerCount, readers.length)) {
+        int number = readerCount;
+        if (!within(slot, SLOTS) || isReaderSlot(slot) || !within(number, readers.length)) {
             return NONE;
         }
-        readers[readerCount] = new Reader(slot);
-        return readerCount++;
+        readers[number] = new Reader(slot);
+        readerCount++;
+        return number;
     }
 
     public boolean settings(int threshold, int bound) {
@@ -116,14 +120,16 @@ public final class TapeHall {
 
     public int ask(int kind, int tape, int a, int b) {
         Tape of = tapeAt(tape);
-        if (of == null || !isAsk(kind, of.places, a, b) || !within(askCount, asks.length)) {
+        int number = askCount;
+        if (of == null || !isAsk(kind, of.places, a, b) || !within(number, asks.length)) {
             return NONE;
         }
         Ask ask = new Ask(kind, tape, a, b, now);
         ask.reachOver(of.places);
-        asks[askCount] = ask;
+        asks[number] = ask;
+        askCount++;
         changeWaiting(ask, 1);
-        return askCount++;
+        return number;
     }
 
     public int tick(int n) {
@@ -524,8 +530,8 @@ public final class TapeHall {
             tape.hasJob = false;
             if (arm.isHomeward) {
                 tape.where = AT_HOME;
-            } else {
-                startWork(arm.tape, tape, reader);
+            } else if (makePlan(arm.tape)) {
+                startWork(tape, reader);
             }
             arm.endJob();
         }
@@ -542,13 +548,11 @@ public final class TapeHall {
         }
     }
 
-    private void startWork(int t, Tape tape, Reader reader) {
+    /** A reader begins with the asks of the plan. */
+    private void startWork(Tape tape, Reader reader) {
         tape.where = IN_READER;
         reader.state = BUSY;
         reader.dropWork();
-        if (!makePlan(t)) {
-            return;
-        }
         for (int i = 0; i < plan.size; i++) {
             int k = at(plan.sequence, i);
             Ask ask = askAt(k);
@@ -879,8 +883,6 @@ public final class TapeHall {
 
         void endJob() {
             tape = NONE;
-            reader = NONE;
-            holds = false;
         }
 
         int nextStop() {

@@ -11,8 +11,10 @@ final class HallTest {
         oneJob();
         twoArms();
         spansThatTouch();
+        spansThatTouchFromTheLeft();
         pushed();
         workOfAReader();
+        turnsAtWork();
         greatestWorth();
         worthOfDistance();
         threshold();
@@ -162,6 +164,37 @@ final class HallTest {
         armIs("arm 1 may", hall, 1, 40, 1, 1, 10);
     }
 
+    /** Arm 1 is on its way from 35 to the reader at 12; arm 0 would fetch a tape for the one at 4. */
+    private static void spansThatTouchFromTheLeft() {
+        for (int home = 11; home <= 12; home++) {
+            TapeHall hall = new TapeHall();
+            hall.settings(-1000, 1000);
+            hall.tape(2, 2, 5);
+            hall.tape(35, 2, 5);
+            hall.tape(home, 2, 5);
+            hall.reader(4);
+            hall.reader(12);
+            hall.ask(URGENT, 0, 0, 0);
+            hall.ask(READ, 1, 0, 0);
+            hall.tick(11);
+            hall.ask(READ, 2, 0, 0);
+            hall.tick(1);
+            // Tick 11: arm 0 has put tape 0 at its home.
+            Due.same("home again", hall.tapeOf(0, 4), 0);
+            armIs("arm 1", hall, 1, 30, 2, 1, 12);
+            if (home == 11) {
+                armIs("to 11 it may", hall, 0, 2, 1, 2, 4);
+            } else {
+                armIs("to 12 it may not", hall, 0, 2, 0, -1, -1);
+                // Arm 1 puts in tick 30 and has no job then: arm 0 is the first to clear the reader.
+                hall.tick(18);
+                armIs("tick 29", hall, 0, 2, 0, -1, -1);
+                hall.tick(1);
+                armIs("tick 30", hall, 0, 2, 1, 1, 35);
+            }
+        }
+    }
+
     /** Arm 1 rests at 35; arm 0 goes to the reader at 39 and drives it ahead. */
     private static void pushed() {
         TapeHall hall = twoArmsAtWork(35);
@@ -226,6 +259,23 @@ final class HallTest {
         // Over in tick 8, home in tick 10, put again in tick 12, where the head is at 5 already.
         Due.same("done", hall.tick(7), 1);
         Due.same("brought again", hall.tick(1), 1);
+    }
+
+    private static void turnsAtWork() {
+        TapeHall hall = tapes(1);
+        hall.ask(READ, 0, 20, 0);
+        // Put in tick 3, done in tick 23, home in tick 25.
+        Due.same("the head is at 20", hall.tick(26), 1);
+        hall.ask(READ, 0, 15, 0);
+        hall.ask(READ, 0, 25, 0);
+        // Put in tick 28: 6 ticks down, then 2 for the turn, 10 and 1; home in tick 48.
+        Due.same("down and up", hall.tick(23), 2);
+        Due.same("down", hall.askOf(1, 4), 33);
+        Due.same("up", hall.askOf(2, 4), 46);
+        hall.ask(READ, 0, 20, 0);
+        hall.tick(20);
+        // Put in tick 51: the way up is forgotten, so no turn is paid.
+        Due.same("down anew", hall.askOf(3, 4), 56);
     }
 
     private static int comesFirst(TapeHall hall) {
@@ -383,6 +433,9 @@ final class HallTest {
         hall.ask(SCRUB, 2, 4000, 0);
         hall.ask(SCRUB, 0, 4000, 0);
         Due.same("the one due first, of like ones the first by number", comesFirst(hall), 2);
+        hall = tapes(1);
+        hall.ask(SCRUB, 0, 5000, 0);
+        Due.same("one alone", comesFirst(hall), 0);
         // In reach of nobody, yet it waits: a read of a tape whose worth is below the threshold.
         hall = tapes(3);
         hall.settings(100, 1000);
