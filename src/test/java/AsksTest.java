@@ -1,25 +1,13 @@
 /** Promises 5, 11, 12, 13: asks, the order of least ticks, what it is told to cost. */
 final class AsksTest {
-    private static final int READ = 0;
-    private static final int SPAN = 1;
-    private static final int WRITE = 2;
-    private static final int SCRUB = 3;
-    private static final int URGENT = 4;
-
     public static void main(String[] args) {
-        refused();
-        full();
         toldOfAsks();
         results();
         failed();
-        sumWraps();
-        oneAsk();
         turns();
         wayIsKept();
         spanTurnsBack();
         alikeByNumber();
-        firstEight();
-        orderOfNone();
         leastWaitsBesideLeastCost();
         headAfterWork();
         Due.close();
@@ -32,49 +20,11 @@ final class AsksTest {
         return hall;
     }
 
-    private static void refused() {
-        TapeHall hall = tape(10);
-        int[] onePlace = {READ, WRITE, URGENT};
-        for (int kind : onePlace) {
-            Due.same(kind + " at -1", hall.ask(kind, 0, -1, 0), -1);
-            Due.same(kind + " at 10", hall.ask(kind, 0, 10, 0), -1);
-        }
-        Due.same("kind -1", hall.ask(-1, 0, 0, 0), -1);
-        Due.same("kind 5", hall.ask(5, 0, 0, 0), -1);
-        Due.same("tape 1", hall.ask(READ, 1, 0, 0), -1);
-        Due.same("tape -1", hall.ask(READ, -1, 0, 0), -1);
-        Due.same("span from -1", hall.ask(SPAN, 0, -1, 3), -1);
-        Due.same("span to 10", hall.ask(SPAN, 0, 3, 10), -1);
-        Due.same("span back", hall.ask(SPAN, 0, 4, 3), -1);
-        Due.same("scrub by -1", hall.ask(SCRUB, 0, -1, 0), -1);
-        Due.same("extremes", hall.ask(Integer.MAX_VALUE, Integer.MIN_VALUE, Integer.MAX_VALUE, 0), -1);
-        Due.same("none came", hall.count(2), 0);
-        Due.same("b of a read means nothing", hall.ask(READ, 0, 9, -5), 0);
-        Due.same("b of an urgent one means nothing", hall.ask(URGENT, 0, 0, 99), 1);
-        Due.same("b of a scrub means nothing", hall.ask(SCRUB, 0, Integer.MAX_VALUE, -1), 2);
-        Due.same("any number is written", hall.ask(WRITE, 0, 9, Integer.MIN_VALUE), 3);
-        Due.same("span of one", hall.ask(SPAN, 0, 9, 9), 4);
-        Due.same("span of all", hall.ask(SPAN, 0, 0, 9), 5);
-        Due.same("six came", hall.count(2), 6);
-        Due.same("six wait", hall.count(4), 6);
-    }
-
-    private static void full() {
-        TapeHall hall = tape(10);
-        for (int k = 0; k < 150; k++) {
-            Due.same("ask " + k, hall.ask(k % 5, 0, 3, 3), k);
-        }
-        Due.same("one more", hall.ask(READ, 0, 3, 3), -1);
-        Due.same("150", hall.count(2), 150);
-        Due.same("the last", hall.askOf(149, 0), 4);
-        Due.same("behind it", hall.askOf(150, 0), -1);
-    }
-
     private static void toldOfAsks() {
         TapeHall hall = tape(10);
         hall.tick(6);
-        hall.ask(WRITE, 0, 4, -77);
-        Due.same("kind", hall.askOf(0, 0), WRITE);
+        hall.ask(Halls.WRITE, 0, 4, -77);
+        Due.same("kind", hall.askOf(0, 0), Halls.WRITE);
         Due.same("tape", hall.askOf(0, 1), 0);
         Due.same("waits", hall.askOf(0, 2), 0);
         Due.same("tick", hall.askOf(0, 3), 6);
@@ -82,26 +32,22 @@ final class AsksTest {
         Due.same("no result yet", hall.askOf(0, 5), 0);
         Due.same("a", hall.askOf(0, 6), 4);
         Due.same("b", hall.askOf(0, 7), -77);
-        Due.same("another what", hall.askOf(0, 8), -1);
-        Due.same("what -1", hall.askOf(0, -1), -1);
-        Due.same("ask 1", hall.askOf(1, 0), -1);
-        Due.same("ask -1", hall.askOf(-1, 0), -1);
     }
 
     /** All at home 0 with a reader there: writes, then the asks that read what they left. */
     private static void results() {
         TapeHall hall = tape(5);
         hall.reader(0);
-        hall.ask(WRITE, 0, 1, 7);
-        hall.ask(WRITE, 0, 3, -2);
+        hall.ask(Halls.WRITE, 0, 1, 7);
+        hall.ask(Halls.WRITE, 0, 3, -2);
         hall.tick(40);
-        hall.ask(WRITE, 0, 3, 100);
+        hall.ask(Halls.WRITE, 0, 3, 100);
         Due.same("no result ahead of it", hall.askOf(2, 5), 0);
         hall.tick(40);
-        hall.ask(READ, 0, 1, 0);
-        hall.ask(SPAN, 0, 1, 3);
-        hall.ask(SCRUB, 0, 0, 0);
-        hall.ask(URGENT, 0, 3, 0);
+        hall.ask(Halls.READ, 0, 1, 0);
+        hall.ask(Halls.SPAN, 0, 1, 3);
+        hall.ask(Halls.SCRUB, 0, 0, 0);
+        hall.ask(Halls.URGENT, 0, 3, 0);
         hall.tick(100);
         Due.same("what was there at first", hall.askOf(0, 5), 0);
         Due.same("what was there", hall.askOf(2, 5), -2);
@@ -117,8 +63,8 @@ final class AsksTest {
         TapeHall hall = new TapeHall();
         hall.tape(0, 4, 5);
         hall.reader(0);
-        hall.ask(WRITE, 0, 2, 9);
-        hall.ask(READ, 0, 2, 0);
+        hall.ask(Halls.WRITE, 0, 2, 9);
+        hall.ask(Halls.READ, 0, 2, 0);
         // Taken in tick 2, put in tick 3: the write takes ticks 3 to 5, the read tick 6.
         Due.same("the job, an arm's way, the take", hall.tick(3), 0);
         Due.same("two asks", hall.tick(4), 2);
@@ -131,19 +77,6 @@ final class AsksTest {
         Due.same("two failed", hall.count(7), 2);
         Due.same("ages of failed ones", hall.count(8), 11);
         Due.same("greatest age", hall.count(9), 6);
-    }
-
-    /** Of four numbers of -2^31, copied and summed, the sum is a long. */
-    private static void sumWraps() {
-        TapeHall hall = tape(4);
-        hall.reader(0);
-        hall.ask(WRITE, 0, 0, Integer.MIN_VALUE);
-        hall.tick(20);
-        hall.copy(0, 0, 0, 1, 1);
-        hall.copy(0, 0, 0, 2, 2);
-        hall.ask(SCRUB, 0, 0, 0);
-        hall.tick(20);
-        Due.same("sum of longs", hall.askOf(1, 5), 4L * Integer.MIN_VALUE);
     }
 
     private static void toldIs(String name, TapeHall hall, int cost, int waits, int leastWaits) {
@@ -161,24 +94,11 @@ final class AsksTest {
         Due.same(name + " order -1", hall.order(0, -1), -1);
     }
 
-    private static void oneAsk() {
-        TapeHall hall = tape(20);
-        hall.ask(READ, 0, 0, 0);
-        toldIs("where the head is", hall, 1, 1, 1);
-        hall = tape(20);
-        hall.ask(SPAN, 0, 4, 9);
-        toldIs("a span ahead", hall, 10, 10, 10);
-        hall = tape(20);
-        hall.ask(SCRUB, 0, 4, 9);
-        toldIs("a scrub", hall, 20, 20, 20);
-        orderIs("one", hall, 0);
-    }
-
     /** A tape of 40 places whose head the one ask that has been done has left at place. */
     private static TapeHall headAt(int place) {
         TapeHall hall = tape(40);
         hall.reader(0);
-        hall.ask(READ, 0, place, 0);
+        hall.ask(Halls.READ, 0, place, 0);
         hall.tick(100);
         Due.same("head", hall.tapeOf(0, 3), place);
         return hall;
@@ -186,30 +106,30 @@ final class AsksTest {
 
     private static void turns() {
         TapeHall hall = headAt(20);
-        hall.ask(READ, 0, 15, 0);
-        hall.ask(READ, 0, 25, 0);
+        hall.ask(Halls.READ, 0, 15, 0);
+        hall.ask(Halls.READ, 0, 25, 0);
         // 6 and 2 + 10 + 1 either way: alike, the lesser number first.
         toldIs("turn", hall, 19, 25, 25);
         orderIs("turn", hall, 1, 2);
         hall = headAt(20);
-        hall.ask(READ, 0, 10, 0);
+        hall.ask(Halls.READ, 0, 10, 0);
         toldIs("from way 0 no turn", hall, 11, 11, 11);
     }
 
     /** An ask where the head is leaves the way as it was: the turn is still to be paid. */
     private static void wayIsKept() {
         TapeHall hall = headAt(10);
-        hall.ask(READ, 0, 5, 0);
-        hall.ask(WRITE, 0, 5, 1);
-        hall.ask(READ, 0, 7, 0);
+        hall.ask(Halls.READ, 0, 5, 0);
+        hall.ask(Halls.WRITE, 0, 5, 1);
+        hall.ask(Halls.READ, 0, 7, 0);
         // 7 first: 4, 3, 1. 5 first: 6, 1, 2 + 3.
         toldIs("way kept", hall, 8, 4 + 7 + 8, 19);
         orderIs("way kept", hall, 3, 1, 2);
         hall = headAt(10);
-        hall.ask(READ, 0, 5, 0);
-        hall.ask(WRITE, 0, 5, 1);
-        hall.ask(SPAN, 0, 5, 6);
-        hall.ask(READ, 0, 39, 0);
+        hall.ask(Halls.READ, 0, 5, 0);
+        hall.ask(Halls.WRITE, 0, 5, 1);
+        hall.ask(Halls.SPAN, 0, 5, 6);
+        hall.ask(Halls.READ, 0, 39, 0);
         // 6, 1, 2 + 2 on the way 1, 34.
         toldIs("span turns where it begins", hall, 45, 6 + 7 + 11 + 45, 69);
         orderIs("span turns where it begins", hall, 1, 2, 3, 4);
@@ -217,10 +137,10 @@ final class AsksTest {
 
     private static void spanTurnsBack() {
         TapeHall hall = headAt(10);
-        hall.ask(SPAN, 0, 5, 10);
+        hall.ask(Halls.SPAN, 0, 5, 10);
         // 5 back, a turn, 6 places.
         toldIs("wound back to", hall, 13, 13, 13);
-        hall.ask(READ, 0, 10, 0);
+        hall.ask(Halls.READ, 0, 10, 0);
         // The read first or last costs alike, and the lesser number goes first, though it waits longer.
         orderIs("and where the head is", hall, 1, 2);
         toldIs("and where the head is", hall, 14, 13 + 14, 1 + 14);
@@ -228,80 +148,46 @@ final class AsksTest {
 
     private static void alikeByNumber() {
         TapeHall hall = tape(10);
-        hall.ask(READ, 0, 5, 0);
-        hall.ask(URGENT, 0, 5, 0);
-        hall.ask(WRITE, 0, 5, 3);
-        hall.ask(READ, 0, 3, 0);
+        hall.ask(Halls.READ, 0, 5, 0);
+        hall.ask(Halls.URGENT, 0, 5, 0);
+        hall.ask(Halls.WRITE, 0, 5, 3);
+        hall.ask(Halls.READ, 0, 3, 0);
         orderIs("alike", hall, 3, 0, 1, 2);
         toldIs("alike", hall, 9, 4 + 7 + 8 + 9, 28);
     }
 
-    private static void firstEight() {
-        TapeHall hall = tape(60);
-        for (int k = 0; k < 8; k++) {
-            hall.ask(READ, 0, 8 - k, 0);
-        }
-        hall.ask(READ, 0, 0, 0);
-        orderIs("eight", hall, 7, 6, 5, 4, 3, 2, 1, 0);
-        toldIs("eight", hall, 16, 2 * 36, 72);
-        Due.same("nine wait", hall.tapeOf(0, 5), 9);
-        hall.reader(0);
-        hall.tick(4);
-        Due.same("eight at work", hall.rig(0, 3), 8);
-        Due.same("the ninth waits", hall.tapeOf(0, 5), 1);
-        Due.same("the ninth alone is in the order", hall.order(0, 0), 8);
-        Due.same("behind it", hall.order(0, 1), -1);
-        Due.same("count of those at work", hall.count(5), 8);
-        Due.same("count of those that wait", hall.count(4), 1);
-        Due.same("the eight", hall.tick(20), 8);
-        Due.same("the ninth, brought anew", hall.tick(20), 1);
-    }
-
-    private static void orderOfNone() {
-        TapeHall hall = tape(10);
-        orderIs("none", hall);
-        toldIs("none", hall, 0, 0, 0);
-        Due.same("order of no tape", hall.order(1, 0), -1);
-        Due.same("order of tape -1", hall.order(-1, 0), -1);
-        Due.same("order extremes", hall.order(0, Integer.MAX_VALUE), -1);
-        Due.same("told of no tape", hall.told(1, 0), -1);
-        Due.same("told of tape -1", hall.told(-1, 2), -1);
-        Due.same("told what 3", hall.told(0, 3), -1);
-        Due.same("told what -1", hall.told(0, -1), -1);
-    }
-
     private static void leastWaitsBesideLeastCost() {
         TapeHall hall = tape(60);
-        hall.ask(SPAN, 0, 0, 40);
-        hall.ask(READ, 0, 41, 0);
-        hall.ask(READ, 0, 3, 0);
+        hall.ask(Halls.SPAN, 0, 0, 40);
+        hall.ask(Halls.READ, 0, 41, 0);
+        hall.ask(Halls.READ, 0, 3, 0);
         // 3 first: 4, then back to 0 with a turn, a turn and the span: 2 + 3 + 2 + 41, then 2.
         orderIs("least cost", hall, 2, 0, 1);
         toldIs("least cost", hall, 4 + 48 + 2, 4 + 52 + 54, 110);
         hall = headAt(20);
-        hall.ask(READ, 0, 0, 0);
-        hall.ask(READ, 0, 39, 0);
-        hall.ask(READ, 0, 38, 0);
+        hall.ask(Halls.READ, 0, 0, 0);
+        hall.ask(Halls.READ, 0, 39, 0);
+        hall.ask(Halls.READ, 0, 38, 0);
         // 38, 39, 0: 19, 2, 42. 39, 38, 0: 20, 4, 39, alike. 0 first: 21, 41, 2.
         orderIs("up first", hall, 2, 3, 1);
         toldIs("up first", hall, 63, 20 + 24 + 63, 19 + 21 + 63);
         hall = headAt(20);
-        hall.ask(SPAN, 0, 21, 39);
-        hall.ask(READ, 0, 10, 0);
+        hall.ask(Halls.SPAN, 0, 21, 39);
+        hall.ask(Halls.READ, 0, 10, 0);
         // Up first: 20, then 2 + 29 + 1. Down first: 11, then 2 + 11 + 19.
         orderIs("down first costs less", hall, 2, 1);
         toldIs("down first costs less", hall, 43, 54, 54);
         hall = headAt(20);
-        hall.ask(SPAN, 0, 8, 38);
-        hall.ask(READ, 0, 39, 0);
+        hall.ask(Halls.SPAN, 0, 8, 38);
+        hall.ask(Halls.READ, 0, 39, 0);
         // The span first: 12 + 2 + 31, 2. The read first: 20, then 2 + 31 + 2 + 31.
         orderIs("the span first", hall, 1, 2);
         toldIs("the span first", hall, 47, 45 + 47, 92);
         hall = headAt(20);
-        hall.ask(SPAN, 0, 1, 38);
-        hall.ask(READ, 0, 39, 0);
-        hall.ask(READ, 0, 39, 0);
-        hall.ask(READ, 0, 39, 0);
+        hall.ask(Halls.SPAN, 0, 1, 38);
+        hall.ask(Halls.READ, 0, 39, 0);
+        hall.ask(Halls.READ, 0, 39, 0);
+        hall.ask(Halls.READ, 0, 39, 0);
         // The span first: 19 + 2 + 38, 2, 1, 1. The reads first: 20, 1, 1, then 2 + 38 + 2 + 38.
         orderIs("waits apart", hall, 1, 2, 3, 4);
         toldIs("waits apart", hall, 63, 59 + 61 + 62 + 63, 20 + 21 + 22 + 102);
@@ -309,12 +195,12 @@ final class AsksTest {
 
     private static void headAfterWork() {
         TapeHall hall = headAt(30);
-        hall.ask(READ, 0, 29, 0);
-        hall.ask(READ, 0, 0, 0);
+        hall.ask(Halls.READ, 0, 29, 0);
+        hall.ask(Halls.READ, 0, 0, 0);
         orderIs("from the head it has", hall, 1, 2);
         toldIs("from the head it has", hall, 2 + 30, 2 + 32, 34);
         Due.same("told of it in the order", hall.told(0, 0), 32);
-        hall.ask(READ, 0, 30, 0);
+        hall.ask(Halls.READ, 0, 30, 0);
         orderIs("one more ask", hall, 3, 1, 2);
         toldIs("one more ask", hall, 33, 1 + 3 + 33, 37);
     }
