@@ -32,6 +32,7 @@ final class AskEdgesTest {
         turnUpAndDown();
         turnsEachTime();
         wayBehindEachAsk();
+        headBehindEachKind();
         orderOfNone();
         orderOfOne();
         orderOfEight();
@@ -494,6 +495,17 @@ final class AskEdgesTest {
         // The arm is there: chosen, taken, and put in the first tick of work.
         Due.same("the last tick but one of what was told", hall.tick(2 + 35), 2);
         Due.same("the last one", hall.tick(1), 1);
+    }
+
+    /** Terms: "HEAD is TO then": a, of a SPAN b, of a SCRUB n - 1. */
+    private static void headBehindEachKind() {
+        int[] due = {3, 5, 3, 7, 3};
+        for (int kind = 0; kind <= 4; kind++) {
+            TapeHall hall = places(8);
+            hall.ask(kind, 0, 3, 5);
+            Due.same("kind " + kind + ", done", hall.tick(60), 1);
+            Due.same("kind " + kind + ", head", hall.tapeOf(0, 3), due[kind]);
+        }
     }
 
     /** 12: "NONE: there are not so many"; 13: of no asks each sum is 0. */
